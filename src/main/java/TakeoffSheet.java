@@ -446,7 +446,7 @@ public final class TakeoffSheet {
             return direction == NORTH ? 1 : direction == SOUTH ? -1 : 0;
         }
 
-        /** Every row of places has an element for each y that this lets through. */
+        /** Guards the rows of bits: each has an element for every y that passes here. */
         private static boolean isPlace(int x, int y) {
             return x >= 0 && x <= LAST_PLACE && y >= 0 && y <= LAST_PLACE;
         }

@@ -86,6 +86,9 @@ final class BillTest {
         DUE.answers("a leaf below 0 takes nothing off", 130, sheet::total);
         sheet.price(TakeoffSheet.MATERIAL, 0);
         DUE.answers("at the prices of now", 10, sheet::total);
+        TakeoffSheet alone = Sheets.withLeaf(0);
+        alone.vary(0, 6);
+        DUE.answers("a leaf alone", 6, alone::total);
     }
 
     private static void promise20Dearest() {
@@ -106,6 +109,8 @@ final class BillTest {
         sheet.vary(3, -5000);
         DUE.answers("below 0 both count 0", 2, () -> sheet.dearest(0));
         DUE.answers("a leaf of 0 itself", 3, () -> sheet.dearest(3));
+        TakeoffSheet alone = Sheets.withLeaf(0);
+        DUE.answers("a leaf alone", 0, () -> alone.dearest(0));
     }
 
     private static void promise20DearestWithoutLeaves() {

@@ -136,8 +136,14 @@ final class DrawingTest {
         DUE.refuses("crosses a wall", Due.INDEX, () -> sheet.wall(SOUTH, 5));
         DUE.says("stops short of it", false, sheet.wall(SOUTH, 3));
         sheet.begin(5, 5);
-        Sheets.draw(sheet, "E2 N2 W2");
-        DUE.refuses("ends on a corner", Due.INDEX, () -> sheet.wall(EAST, 2));
+        Sheets.draw(sheet, "E3 N3 E3 S3 W2");
+        DUE.refuses("ends on a corner", Due.INDEX, () -> sheet.wall(WEST, 1));
+        Sheets.draw(sheet, "S2 W3");
+        DUE.refuses("ends on the first place of a wall", Due.INDEX, () -> sheet.wall(NORTH, 2));
+        DUE.says("stops short of it", false, sheet.wall(NORTH, 1));
+        sheet.begin(5, 5);
+        sheet.wall(EAST, 1);
+        DUE.refuses("back, where the drawing before had more places", Due.INDEX, () -> sheet.wall(WEST, 1));
     }
 
     private static void promise3WallThatThrowsChangesNothing() {

@@ -27,13 +27,14 @@ final class Due {
         tell(what, "" + want, "" + got);
     }
 
-    /** The class must be the very one, so that no exception of the machine (they are subclasses) passes. */
+    /** The exception must be of the very class and thrown by the sheet itself, so that none of the machine passes. */
     void refuses(String what, Class<? extends RuntimeException> want, Act act) {
         try {
             act.run();
             tell(what, "throws " + want.getName(), "threw nothing");
         } catch (RuntimeException e) {
-            tell(what, "throws " + want.getName(), "throws " + e.getClass().getName());
+            String by = e.getStackTrace()[0].getClassName().startsWith("TakeoffSheet") ? "" : " of the machine";
+            tell(what, "throws " + want.getName(), "throws " + e.getClass().getName() + by);
         }
     }
 

@@ -154,7 +154,8 @@ final class LongRunsTest {
         int two = number(1, random.nextBoolean() ? 4 : 40);
         int limit = number(0, random.nextBoolean() ? 20 : 1600);
         switch (kind) {
-            case "opening" -> same("opening " + one + " " + two, plain.opening(one, two), () -> sheet.opening(one, two));
+            case "opening" -> same("opening " + one + " " + two, plain.opening(one, two),
+                    () -> sheet.opening(one, two));
             case "limit" -> same("limit " + limit, plain.limit(limit), () -> sheet.limit(limit));
             case "area" -> same(kind, plain.area(), sheet::area);
             case "areaByStrips" -> same(kind, plain.area(), sheet::areaByStrips);
@@ -191,7 +192,8 @@ final class LongRunsTest {
         int quantity = number(-reach, reach);
         int done = number(0, 100);
         switch (kind) {
-            case "take" -> same("take " + item + " " + height, plain.take(item, height), () -> sheet.take(item, height));
+            case "take" -> same("take " + item + " " + height, plain.take(item, height),
+                    () -> sheet.take(item, height));
             case "vary" -> same("vary " + item + " " + quantity, plain.vary(item, quantity),
                     () -> sheet.vary(item, quantity));
             case "quantity" -> same("quantity " + item, plain.quantity(item), () -> sheet.quantity(item));

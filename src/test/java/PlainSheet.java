@@ -144,7 +144,9 @@ final class PlainSheet {
                 if (!in(x, -1, 40) || !in(y, -1, 40) || wet[x + 1][y + 1]) {
                     continue;
                 }
-                String between = DX[direction] != 0 ? Math.max(x, at[0]) + "," + y + "up" : x + "," + Math.max(y, at[1]) + "across";
+                String upright = Math.max(x, at[0]) + "," + y + "up";
+                String level = x + "," + Math.max(y, at[1]) + "across";
+                String between = DX[direction] != 0 ? upright : level;
                 if (!walls.contains(between)) {
                     wet[x + 1][y + 1] = true;
                     count++;
